@@ -671,17 +671,14 @@ public final class RoundKiss {
         }
 
         long bendSum() {
-            return columnSum(0);
+            return (long) bend(0) + bend(1) + bend(2) + bend(3);
         }
 
-        private long columnSum(int column) {
-            return (long) numbers[column] + numbers[COLUMNS + column]
-                    + numbers[2 * COLUMNS + column] + numbers[3 * COLUMNS + column];
-        }
-
-        /** Twice the sum of the other three, less its own: twice the sum of all, less its own three times. */
+        /** Twice the sum of the other three, less its own: twice the sum of all, less three times its own. */
         long swapped(int place, int column) {
-            return 2 * columnSum(column) - 3L * numbers[COLUMNS * place + column];
+            long all = (long) numbers[column] + numbers[COLUMNS + column]
+                    + numbers[2 * COLUMNS + column] + numbers[3 * COLUMNS + column];
+            return 2 * all - 3L * numbers[COLUMNS * place + column];
         }
 
         /** A swap of the first columns; false, and nothing is done, if a number would be beyond. */
