@@ -618,31 +618,27 @@ public final class RoundKiss {
 
         boolean mirrorFits(int round, int other) {
             long product = productOf(round, other);
+            // A product beyond twice the limit leads beyond it, as no round is all 0; and it could wrap around.
+            if (product < -2L * GREATEST_NUMBER || product > 2L * GREATEST_NUMBER) {
+                return false;
+            }
             for (int column = 0; column < COLUMNS; column++) {
-                if (!mirroredFits(number(round, column), number(other, column), product)) {
+                if (!Numbers.fits(mirrored(round, other, column, product))) {
                     return false;
                 }
             }
             return true;
         }
 
+        /** Where mirrorFits has told that it fits. */
         int putMirror(int round, int other) {
             long product = productOf(round, other);
-            return put(TURNED, mirrored(round, other, 0, product), mirrored(round, other, 1, product),
-                    mirrored(round, other, 2, product), mirrored(round, other, 3, product));
+            return put(TURNED, (int) mirrored(round, other, 0, product), (int) mirrored(round, other, 1, product),
+                    (int) mirrored(round, other, 2, product), (int) mirrored(round, other, 3, product));
         }
 
-        private static boolean mirroredFits(int own, int others, long product) {
-            if (others == 0) {
-                return true;
-            }
-            // A product beyond twice the limit leads beyond it with any factor but 0, and could wrap around.
-            boolean isSmall = product >= -2L * GREATEST_NUMBER && product <= 2L * GREATEST_NUMBER;
-            return isSmall && Numbers.fits(own - product * others);
-        }
-
-        private int mirrored(int round, int other, int column, long product) {
-            return (int) (number(round, column) - product * number(other, column));
+        private long mirrored(int round, int other, int column, long product) {
+            return number(round, column) - product * number(other, column);
         }
     }
 

@@ -366,6 +366,10 @@ public final class PromiseTest {
         Due.is("7: touch", x.meet(0, 1), 1);
         Due.is("7: the other side touches", x.meet(0, 10), 1);
         Due.is("7: inner", x.meet(2, 3), 2);
+        x.round(5, 0, 0, 1);
+        Due.is("7: inner, another bend alone", x.meet(3, 11), 2);
+        x.round(0, 7, 0, 1);
+        Due.is("7: inner, another b alone", x.meet(2, 12), 2);
         Due.is("7: square", x.meet(2, 4), 3);
         Due.is("7: cross by -1", x.meet(0, 5), 4);
         Due.is("7: cross by 1", x.meet(0, 8), 4);
@@ -418,7 +422,7 @@ public final class PromiseTest {
         }, y -> y.mirror(8, 3), -8);
     }
 
-    /** Lines 0, b, 1, 0 have product 2: the mirror of one in another has b less twice the other b. */
+    /** Rounds a, 0, 1, 0 and lines 0, b, 1, 0 have product 2: a, b less twice the other's a, b come. */
     private static void mirrorAtTheLimit() {
         Setup lines = y -> {
             bench(y);
@@ -427,14 +431,24 @@ public final class PromiseTest {
             y.round(0, BILLION / 2 + 1, 1, 0);
             y.round(0, -BILLION / 2, 1, 0);
             y.round(0, -BILLION / 2 - 1, 1, 0);
+            y.round(0, 5, 1, 0);
+            y.round(0, BILLION / 2 + 2, 1, 0);
         };
-        answers("8: b of -10^9", lines, y -> y.mirror(8, 9), 13);
+        answers("8: b of 5 - 10^9 - 4", lines, y -> y.mirror(13, 14), 15);
+        answers("8: b of -10^9", lines, y -> y.mirror(8, 9), 15);
         refuses("8: b of -10^9 - 2", lines, y -> y.mirror(8, 10), -8);
-        answers("8: b of 10^9", lines, y -> y.mirror(8, 11), 13);
+        answers("8: b of 10^9", lines, y -> y.mirror(8, 11), 15);
         refuses("8: b of 10^9 + 2", lines, y -> y.mirror(8, 12), -8);
+        Setup throughZero = y -> {
+            y.round(0, 0, 1, 0);
+            y.round(BILLION / 2, 0, 1, 0);
+            y.round(BILLION / 2 + 1, 0, 1, 0);
+        };
+        answers("8: a of -10^9", throughZero, y -> y.mirror(0, 1), 3);
+        refuses("8: a of -10^9 - 2, alone", throughZero, y -> y.mirror(0, 2), -8);
         RoundKiss x = made(lines);
         x.mirror(8, 9);
-        numbersAre("8: b of -10^9", x, 13, 3, 0, -BILLION, -1, 0);
+        numbersAre("8: b of -10^9", x, 15, 3, 0, -BILLION, -1, 0);
     }
 
     private static void promise9Flip() {
@@ -984,6 +998,8 @@ public final class PromiseTest {
         Due.is("30: behind 1/2", x.beside(102, 5, false), 305);
         Due.is("30: ahead of 1/2", x.beside(102, 5, true), 205);
         Due.is("30: behind 1/2 in another row", x.beside(102, 7, false), 407);
+        Due.is("30: ahead of 1/5", x.beside(105, 5, true), 1);
+        Due.is("30: behind 4/5", x.beside(405, 5, false), 101);
         Due.is("30: behind 0", x.beside(1, 30, false), 130);
         Due.is("30: ahead of 1", x.beside(101, 30, true), 2930);
         Due.is("30: behind 0 in the row of 1", x.beside(1, 1, false), 101);
@@ -1023,6 +1039,8 @@ public final class PromiseTest {
         // Both 1/3 and 1/2 stand between 2/5 and 0 / 1: the less one is taken.
         wayIs(x, 5, 205, 103, 1);
         wayIs(x, 5, 205, 102, 101);
+        wayIs(x, 30, 130, 1, 101, 2930);
+        wayIs(x, 30, 2930, 101, 1, 130);
         refuses("31: f none of the row", PromiseTest::bench, y -> y.way(106, 1, 5), -7);
         refuses("31: g none of the row", PromiseTest::bench, y -> y.way(1, 106, 5), -7);
         for (int f : NO_FRACTIONS) {
