@@ -11,6 +11,7 @@ public final class ModelTest {
         {{0, 0, 0, -1}, {0, 2, 0, 1}, {2, 0, 0, 1}, {2, 2, 2, 1}},
         {{0, 0, 0, -1}, {0, 4, 0, 1}, {1, 0, 0, 1}, {1, 4, 2, 1}},
         {{-2, 0, 0, 1}, {3, 0, 0, -1}, {6, 4, 0, -5}, {7, 4, 2, -5}},
+        {{-15, -1, 0, -4}, {32, 2, 1, 8}, {32, 2, -1, 8}, {33, 3, 0, 10}},
     };
 
     private static final String[] CALLS_THERE = {
@@ -80,7 +81,8 @@ public final class ModelTest {
 
     /** A known kiss, led somewhere by swaps and by maps that keep whole numbers, laws and products. */
     private long[][] anyKiss() {
-        long[][] four = random.nextInt(4) == 0 ? ringKiss() : copied(KISSES[random.nextInt(KISSES.length)]);
+        int family = random.nextInt(6);
+        long[][] four = family == 0 ? ringKiss() : family == 1 ? farKiss() : copied(KISSES[random.nextInt(KISSES.length)]);
         int changes = random.nextInt(8);
         for (int i = 0; i < changes; i++) {
             long[][] before = four.clone();
@@ -133,6 +135,26 @@ public final class ModelTest {
         long k = random.nextInt(random.nextInt(10) == 0 ? 20000 : 20);
         return new long[][] {{-n, 0, 1, 0}, {n + 1, 0, -1, 0}, {n * n + n + k * k, 4, -1 - 2 * n, 2 * k},
             {n * n + n + (k + 1) * (k + 1), 4, -1 - 2 * n, 2 * k + 2}};
+    }
+
+    /** A known kiss so far away that some b, or where it is turned inside out some bend, comes near the limit. */
+    private long[][] farKiss() {
+        long[][] known = copied(KISSES[random.nextInt(KISSES.length)]);
+        long greatest = 1;
+        for (long[] r : known) {
+            greatest = Math.max(greatest, r[0]);
+        }
+        double far = Math.sqrt((double) BILLION / greatest);
+        double angle = 2 * Math.PI * random.nextDouble();
+        int s = (int) (far * Math.cos(angle));
+        int t = (int) (far * Math.sin(angle));
+        long[][] result = new long[4][];
+        boolean isInsideOut = random.nextBoolean();
+        for (int i = 0; i < 4; i++) {
+            long[] moved = mapped(known[i], 3, s, t);
+            result[i] = isInsideOut ? mapped(moved, 0, 0, 0) : moved;
+        }
+        return fits(result) ? result : known;
     }
 
     private static long[][] copied(int[][] four) {
