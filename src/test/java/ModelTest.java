@@ -1,9 +1,14 @@
+import java.util.HashSet;
+import java.util.List;
 import java.util.Random;
+import java.util.Set;
+import java.util.stream.Stream;
 
 /** Random runs of up to 512 calls, with fixed seeds, on RoundKiss and on the slow model of the document. */
 public final class ModelTest {
     private static final int RUNS = 400;
     private static final int CALLS = 480;
+    private static final int PACKINGS = 80;
     private static final int BILLION = 1_000_000_000;
 
     private static final int[][][] KISSES = {
@@ -32,10 +37,11 @@ public final class ModelTest {
 
     public static void main(String[] args) {
         int runs = args.length > 0 ? Integer.parseInt(args[0]) : RUNS;
-        for (int seed = 0; seed < runs; seed++) {
+        int first = args.length > 1 ? Integer.parseInt(args[1]) : 0;
+        for (int seed = first; seed < first + runs; seed++) {
             new ModelTest(seed).go();
         }
-        allWays(12);
+        packings(PACKINGS);
         Due.end("ModelTest");
     }
 
@@ -57,23 +63,44 @@ public final class ModelTest {
         }
     }
 
-    /** Every way in every row up to n; a new object for each start keeps below 512 calls. */
-    private static void allWays(int n) {
-        for (int order = 1; order <= n; order++) {
-            int size = new RoundKiss().fractions(order);
-            for (int i = 0; i < size; i++) {
-                ModelTest ways = new ModelTest(0);
-                for (int j = 0; j < size; j++) {
-                    ways.wayAndSteps(ways.bench.fraction(order, i), ways.bench.fraction(order, j), order);
+    /** Packings with leasts that differ, each asked about near the bends of its least and elsewhere. */
+    private static void packings(int most) {
+        Set<List<Integer>> leasts = new HashSet<>();
+        for (int seed = 0; seed < 100 * most && leasts.size() < most; seed++) {
+            ModelTest one = new ModelTest(seed);
+            one.bringKiss(one.anyKiss());
+            RoundKiss x = one.bench;
+            if (one.model.kissesThere() > 0 && x.height(0) > 0 && x.shut(0) == 1) {
+                one.call("least", 0);
+                List<Integer> bends = Stream.of(0, 1, 2, 3).map(place -> x.of(0, place, 0)).sorted().toList();
+                if (bends.get(3) < 600 && leasts.add(bends)) {
+                    one.packing(bends);
                 }
             }
         }
+        Due.is("packings", leasts.size(), most);
     }
 
-    private void wayAndSteps(int f, int g, int order) {
-        call("way", f, g, order);
-        for (int i = 0; i < 7; i++) {
-            call("step", i);
+    private void packing(List<Integer> bends) {
+        for (int bend : bends) {
+            for (int n = Math.max(0, bend - 1); n <= Math.min(300, bend + 1); n++) {
+                upTo(n, bend);
+            }
+        }
+        for (int i = 0; i < 10; i++) {
+            upTo(random.nextInt(301), random.nextInt(299));
+        }
+        upTo(300, 299);
+    }
+
+    private void upTo(int n, int number) {
+        call("count", 0, n);
+        call("bends", 0, n);
+        call("rests", 0, n);
+        call("next", 0, number - 1);
+        call("next", 0, number);
+        for (int what = 0; what <= 4; what++) {
+            call("sum", 0, n, what);
         }
     }
 
